@@ -998,7 +998,9 @@ public final class PainPorters {
         private int next;
         int kind;
         int place;
+        // What a NUMBER says, or the number of what a NAME is told for.
         int number;
+        int kindOfName;
         long word;
         // Which of the KEYWORDS the TOKEN is; NONE if it is none.
         int keyword;
@@ -1096,39 +1098,28 @@ public final class PainPorters {
             return kind == WORD && keyword == NONE;
         }
 
-        /** The next TOKEN is a told NAME of one of these kinds (bits): its kind times 8 and its number; NONE: a FAULT. */
-        int toldName(Town t, int kinds) {
+        /** The next TOKEN is a told NAME of one of these kinds (bits): its number and its kind are known then. */
+        boolean readName(Town t, int kinds) {
             advance();
             if (!isName()) {
-                fail(NO_TOKEN_FAULT);
-                return NONE;
+                return fail(NO_TOKEN_FAULT);
             }
             int found = t.find(word);
             if (found == NONE || (kinds >>> found / 8 & 1) == 0) {
-                fail(NAME_FAULT);
-                return NONE;
+                return fail(NAME_FAULT);
             }
-            return found;
+            number = found % 8;
+            kindOfName = found / 8;
+            return true;
         }
 
-        /** The number of the thing that the next TOKEN names; NONE: a FAULT. */
-        int told(Town t, int kindOfThing) {
-            int found = toldName(t, 1 << kindOfThing);
-            return found == NONE ? NONE : found % 8;
-        }
-
-        /** The next TOKEN is a NUMBER between these two; NONE: a FAULT. */
-        int amount(int least, int greatest) {
+        /** The next TOKEN is a NUMBER between these two. */
+        boolean readNumber(int least, int greatest) {
             advance();
             if (kind != NUMBER) {
-                fail(NO_TOKEN_FAULT);
-                return NONE;
+                return fail(NO_TOKEN_FAULT);
             }
-            if (number < least || number > greatest) {
-                fail(NUMBER_FAULT);
-                return NONE;
-            }
-            return number;
+            return number >= least && number <= greatest || fail(NUMBER_FAULT);
         }
 
         boolean endsLine() {
@@ -1214,14 +1205,14 @@ public final class PainPorters {
                 return in.fail(MANY_FAULT);
             }
             talksTold++;
-            int one = in.told(out, KIND_SORT);
-            if (one == NONE) {
+            if (!in.readName(out, 1 << KIND_SORT)) {
                 return false;
             }
-            int other = in.told(out, KIND_SORT);
-            if (other == NONE) {
+            int one = in.number;
+            if (!in.readName(out, 1 << KIND_SORT)) {
                 return false;
             }
+            int other = in.number;
             if (one == other || (out.talks[one] >>> other & 1) != 0) {
                 return in.fail(NAME_FAULT);
             }
@@ -1235,14 +1226,10 @@ public final class PainPorters {
             if (m >= MOST_PERSONS) {
                 return in.fail(MANY_FAULT);
             }
-            if (!readNewName(in, out, KIND_PERSON, m)) {
+            if (!readNewName(in, out, KIND_PERSON, m) || !in.readNumber(0, 999)) {
                 return false;
             }
-            int coin = in.amount(0, 999);
-            if (coin == NONE) {
-                return false;
-            }
-            out.coins[m] = coin;
+            out.coins[m] = in.number;
             out.persons++;
             return in.nextEndsLine();
         }
@@ -1252,19 +1239,14 @@ public final class PainPorters {
             if (r >= MOST_PORTERS) {
                 return in.fail(MANY_FAULT);
             }
-            if (!readNewName(in, out, KIND_PORTER, r)) {
+            if (!readNewName(in, out, KIND_PORTER, r) || !in.readNumber(1, 40)) {
                 return false;
             }
-            int strength = in.amount(1, 40);
-            if (strength == NONE) {
+            out.strength[r] = in.number;
+            if (!in.readNumber(0, MOST_FEE)) {
                 return false;
             }
-            int asks = in.amount(0, MOST_FEE);
-            if (asks == NONE) {
-                return false;
-            }
-            out.strength[r] = strength;
-            out.fees[r] = asks;
+            out.fees[r] = in.number;
             out.porters++;
             return in.nextEndsLine();
         }
@@ -1274,14 +1256,14 @@ public final class PainPorters {
                 return in.fail(MANY_FAULT);
             }
             barsTold++;
-            int r = in.told(out, KIND_PORTER);
-            if (r == NONE) {
+            if (!in.readName(out, 1 << KIND_PORTER)) {
                 return false;
             }
-            int s = in.told(out, KIND_SORT);
-            if (s == NONE) {
+            int r = in.number;
+            if (!in.readName(out, 1 << KIND_SORT)) {
                 return false;
             }
+            int s = in.number;
             if ((out.bars[r] >>> s & 1) != 0) {
                 return in.fail(NAME_FAULT);
             }
@@ -1294,29 +1276,22 @@ public final class PainPorters {
             if (p >= MOST_PAINS) {
                 return in.fail(MANY_FAULT);
             }
-            if (!readNewName(in, out, KIND_PAIN, p)) {
+            if (!readNewName(in, out, KIND_PAIN, p) || !in.readName(out, 1 << KIND_PERSON)) {
                 return false;
             }
-            int m = in.told(out, KIND_PERSON);
-            if (m == NONE) {
+            out.owner[p] = in.number;
+            if (!in.readName(out, 1 << KIND_SORT)) {
                 return false;
             }
-            int s = in.told(out, KIND_SORT);
-            if (s == NONE) {
+            out.sortOf[p] = in.number;
+            if (!in.readNumber(1, 9)) {
                 return false;
             }
-            int weight = in.amount(1, 9);
-            if (weight == NONE) {
+            out.weight[p] = in.number;
+            if (!in.readNumber(1, 200)) {
                 return false;
             }
-            int lasting = in.amount(1, 200);
-            if (lasting == NONE) {
-                return false;
-            }
-            out.owner[p] = m;
-            out.sortOf[p] = s;
-            out.weight[p] = weight;
-            out.lasting[p] = lasting;
+            out.lasting[p] = in.number;
             out.pains++;
             return in.nextEndsLine();
         }
@@ -1326,11 +1301,10 @@ public final class PainPorters {
                 return in.fail(NAME_FAULT);
             }
             harmTold = true;
-            int harm = in.amount(0, HARM_OF);
-            if (harm == NONE) {
+            if (!in.readNumber(0, HARM_OF)) {
                 return false;
             }
-            out.harm = harm;
+            out.harm = in.number;
             return in.nextEndsLine();
         }
     }
@@ -1378,34 +1352,47 @@ public final class PainPorters {
                 return in.fail(MANY_FAULT);
             }
             if (hour) {
-                acts[lines] = HOUR;
-                extras[lines] = in.amount(1, MOST_HOURS);
-                return extras[lines] != NONE && in.nextEndsLine();
+                return readHour(in);
             }
-            in.advance();
-            acts[lines] = in.keyword;
-            if (pain) {
-                pains[lines] = first % 8;
-                return (in.keyword == HOME || in.fail(NO_TOKEN_FAULT)) && in.nextEndsLine();
-            }
-            doers[lines] = first % 8;
-            return readDeed(in, t);
+            return pain ? readHome(in, first % 8) : readDeed(in, t, first % 8);
         }
 
-        private boolean readDeed(Reader in, Town t) {
+        private boolean readHour(Reader in) {
+            if (!in.readNumber(1, MOST_HOURS)) {
+                return false;
+            }
+            acts[lines] = HOUR;
+            extras[lines] = in.number;
+            return in.nextEndsLine();
+        }
+
+        private boolean readHome(Reader in, int p) {
+            in.advance();
+            if (in.keyword != HOME) {
+                return in.fail(NO_TOKEN_FAULT);
+            }
+            acts[lines] = HOME;
+            pains[lines] = p;
+            return in.nextEndsLine();
+        }
+
+        private boolean readDeed(Reader in, Town t, int r) {
+            in.advance();
             int act = in.keyword;
             if (act != FETCHES && act != DROPS && act != HANDS) {
                 return in.fail(NO_TOKEN_FAULT);
             }
-            pains[lines] = in.told(t, KIND_PAIN);
-            if (pains[lines] == NONE) {
+            if (!in.readName(t, 1 << KIND_PAIN)) {
                 return false;
             }
+            acts[lines] = act;
+            doers[lines] = r;
+            pains[lines] = in.number;
             if (act == HANDS) {
-                extras[lines] = in.told(t, KIND_PORTER);
-                if (extras[lines] == NONE) {
+                if (!in.readName(t, 1 << KIND_PORTER)) {
                     return false;
                 }
+                extras[lines] = in.number;
             }
             return in.nextEndsLine();
         }
@@ -1553,43 +1540,26 @@ public final class PainPorters {
 
         private boolean readPlain(Reader in, Town t) {
             int op = in.keyword;
-            int arg = 0;
-            int sign = 0;
             switch (op) {
                 case CARRIED:
                 case LOST:
                 case OVER:
-                    break;
+                    return step(op, 0, 0);
                 case OF:
-                    arg = in.told(t, KIND_PERSON);
-                    break;
+                    return in.readName(t, 1 << KIND_PERSON) && step(op, 0, in.number);
                 case WITH:
-                    arg = placeOf(in.toldName(t, 1 << KIND_PERSON | 1 << KIND_PORTER));
-                    break;
+                    return in.readName(t, 1 << KIND_PERSON | 1 << KIND_PORTER)
+                            && step(op, 0, in.kindOfName == KIND_PORTER ? AT_PORTER + in.number : in.number);
                 case IS:
-                    arg = in.told(t, KIND_SORT);
-                    break;
+                    return in.readName(t, 1 << KIND_SORT) && step(op, 0, in.number);
                 default:
                     in.advance();
-                    sign = in.kind;
+                    int sign = in.kind;
                     if (sign != '<' && sign != '=' && sign != '>') {
                         return in.fail(NO_TOKEN_FAULT);
                     }
-                    arg = in.amount(0, 999);
-                    break;
+                    return in.readNumber(0, 999) && step(op, sign, in.number);
             }
-            if (arg == NONE) {
-                return false;
-            }
-            step(op, sign, arg);
-            return true;
-        }
-
-        private static int placeOf(int found) {
-            if (found == NONE) {
-                return NONE;
-            }
-            return found / 8 == KIND_PORTER ? AT_PORTER + found % 8 : found % 8;
         }
 
         /** What stands behind a ONE: 'and', 'or', a bracket's end. */
@@ -1618,13 +1588,16 @@ public final class PainPorters {
             }
         }
 
-        private void step(int op, int sign, int arg) {
-            if (steps < MOST_STEPS) {
-                ops[steps] = op;
-                signs[steps] = sign;
-                args[steps] = arg;
-                steps++;
+        /** There is always room: 20 ONES are joined by 19 steps more at most. */
+        private boolean step(int op, int sign, int arg) {
+            if (steps >= MOST_STEPS) {
+                return false;
             }
+            ops[steps] = op;
+            signs[steps] = sign;
+            args[steps] = arg;
+            steps++;
+            return true;
         }
 
         private void closeNots() {
@@ -1942,7 +1915,12 @@ public final class PainPorters {
         }
 
         int sureHolder(int p) {
-            return Integer.bitCount(holders[p]) == 1 ? Integer.numberOfTrailingZeros(holders[p]) : NONE;
+            for (int who = 0; who <= NOBODY; who++) {
+                if (holders[p] == 1 << who) {
+                    return who;
+                }
+            }
+            return NONE;
         }
 
         int bestQuestion() {
