@@ -225,6 +225,13 @@ public final class PromiseTest {
         due("its coin", x.now(4), 5);
         due("no SENTENCE", x.said(NONE), NONE);
         due("nothing to undo", x.undo(), NONE);
+        for (int i = 0; i < 4; i++) {
+            type(x, "sort z;sort y;" + (i % 2 == 0 ? "talks y z;" : "") + "person m 9;porter r 9 0;"
+                    + "pain a m z 1 9;pain b m y 1 9;");
+            due("a TOWN knows nothing of the ones ahead of it", x.town(), i % 2 == 0 ? 7 : 6);
+            x.fetch(0, 0);
+            due("nor does what talks", x.can(0, 1), i % 2 == 0 ? 3 : 0);
+        }
         String full = "sort a;sort b;sort c;sort d;sort e;sort f;person g 1;person h 1;person i 1;person j 1;person k 1;"
                 + "porter l 1 1;porter m 1 1;porter n 1 1;porter o 1 1;porter p 1 1;talks a b;talks a c;talks a d;talks a e;"
                 + "talks a f;talks b c;talks b d;talks b e;bars l a;bars l b;bars l c;bars l d;bars l e;bars l f;bars m a;"
@@ -572,6 +579,10 @@ public final class PromiseTest {
         x.hours(1);
         due("LEARNT the other", porter(x, 0, 5), 3);
         due("HEAVES", porter(x, 0, 3), 7);
+        PainPorters two = of("sort a;person m 9;porter r 9 0;pain c m a 2 200;");
+        two.fetch(0, 0);
+        two.hours(10);
+        due("1 of 2", porter(two, 0, 3), 1);
         PainPorters y = of("sort a;person m 9;porter r 9 1;pain c m a 3 200;");
         y.fetch(0, 0);
         y.hours(10);
@@ -1110,6 +1121,11 @@ public final class PromiseTest {
         logged(x, 0, 10, 600, 3);
         due("an empty LOG", x.log(0), NONE);
         logged(x, 0, 0, 0, 0);
+        due("handed on", lived(x, "pim fetches tooth;pim hands tooth rex;rex fetches burn;", 1), NONE);
+        logged(x, 0, 3, 0, 0);
+        due("with the other one", x.now(6), 9);
+        due("with the other one", porter(x, 1, 2), 9);
+        x.undo();
         due("drops are counted", lived(x, "pim fetches tooth;pim drops tooth;hour 1;", 1), NONE);
         due("drops", pain(x, 0, 5), 1);
         logFaults();
@@ -1197,6 +1213,10 @@ public final class PromiseTest {
         said(x, "carried", 1, 0);
         said(x, "with pim", 1, 0);
         said(x, "of ann and not with ann", 3, 0);
+        x.hand(0, 0, 1);
+        said(x, "with rex", 1, 0);
+        said(x, "with pim", 1);
+        x.undo();
         x.hours(4);
         said(x, "over", 1, 3);
         said(x, "left=0", 1, 3);
@@ -1321,6 +1341,55 @@ public final class PromiseTest {
         due("this one", x.restore(0), true);
         due("no SENTENCE", x.said(NONE), NONE);
         due("SORTS", x.count(0), 1);
+        imageIsWhole();
+    }
+
+    /** All of a TOWN, of what is so and of the SENTENCE comes back, whatever came between. */
+    private static void imageIsWhole() {
+        PainPorters x = of(SMALL);
+        type(x, "is ache and left > 3 or with rex");
+        x.sentence();
+        x.fetch(0, 0);
+        x.hours(1);
+        x.drop(0, 0);
+        x.image(0);
+        int[] before = look(x);
+        String[] others = {"sort q fixed;sort w;person e 7;person r 8;person t 9;porter z 1 1;pain u e w 9 9;harm 5;",
+            "sort w;sort q;sort a;sort s;talks w a;talks q s;person e 1;porter z 40 4;porter y 30 3;porter v 20 2;"
+                + "bars z w;bars y q;bars v s;pain u e w 9 9;pain i e a 8 8;pain o e q 7 7;pain p e s 6 6;pain k e w 5 5;"};
+        for (int i = 0; i < 5; i++) {
+            type(x, others[i % 2]);
+            x.town();
+            type(x, i % 2 == 0 ? "weight < 9 and not lost" : "number = 2 or (of e and not carried)");
+            x.sentence();
+            x.image(1);
+            x.drawn(9, i);
+        }
+        due("restored", x.restore(0), true);
+        int[] after = look(x);
+        for (int i = 0; i < before.length; i++) {
+            due("look " + i, after[i], before[i]);
+        }
+        due("names", lived(x, "rex fetches burn;hour 1;tooth home;loss home;", 0), 3);
+        due("why", x.logged(0), 31);
+    }
+
+    private static int[] look(PainPorters x) {
+        int[] seen = new int[200];
+        int n = 0;
+        for (int i = 0; i < 7; i++) {
+            seen[n++] = x.now(i);
+            seen[n++] = x.count(i);
+            seen[n++] = x.said(i - 1);
+            for (int k = 0; k < 4; k++) {
+                seen[n++] = pain(x, k, i);
+                seen[n++] = x.person(k, i);
+                seen[n++] = porter(x, k, i);
+                seen[n++] = x.sort(k, i);
+                seen[n++] = x.can(i % 2, k);
+            }
+        }
+        return seen;
     }
 
     private static void counts() {
