@@ -1668,21 +1668,31 @@ public final class PainPorters {
         }
     }
 
-    /** Which PORTER carries which PAIN if they are shared out anew: FREE, FEWEST and REST. */
+    /**
+     * Which PORTER carries which PAIN if they are shared out anew: FREE, FEWEST and REST.
+     * A way of FREE and FEWEST is told by a key: what it costs, times CODES, and its PORTERS PAIN by PAIN as the
+     * digits of a number to the base of 5. Both add up PORTER by PORTER, and the least key is the first way of the
+     * least cost.
+     */
     private static final class Loads {
+        private static final int SETS = 1 << MOST_PAINS;
+        private static final int CODES = 390625;
+        private static final int TOP_DIGIT = CODES / MOST_PORTERS;
+
         private final int[] pains = new int[MOST_PAINS];
         private int count;
-        // What a PORTER would be paid for a PAIN, and what he would HEAVE of it, PORTER by PORTER.
-        private final int[] prices = new int[MOST_PORTERS * MOST_PAINS];
-        private final int[] heaves = new int[MOST_PORTERS * MOST_PAINS];
-        // The least that can be paid for a PAIN and all behind it.
-        private final int[] floor = new int[MOST_PAINS + 1];
+        // Sets are of places in that row from here on: those of SORTS that talk to that of one in it.
+        private final int[] clashes = new int[MOST_PAINS];
+        private final int[] paidHours = new int[MOST_PAINS];
+        private boolean countsPorters;
         private final int[] has = new int[MOST_PORTERS];
         private final int[] borne = new int[MOST_PORTERS];
-        private boolean countsPorters;
-        private final int[] chosen = new int[MOST_PAINS];
-        private final int[] best = new int[MOST_PAINS];
-        private int least;
+        // Of each set: what one PORTER HEAVES with it, his key for it (NONE if he can't carry it), and the least key
+        // by which it goes to the PORTERS so far (NONE if it can't be).
+        private final int[] heaved = new int[SETS];
+        private final long[] keys = new long[SETS];
+        private final long[] least = new long[SETS];
+        private int code;
 
         int freeing(Town t, State s, int persons, int n) {
             int set = 0;
@@ -1691,107 +1701,105 @@ public final class PainPorters {
                     set |= s.painsAt(t, m);
                 }
             }
+            gather(t, set);
             countsPorters = false;
-            gather(t, s, set);
+            for (int i = 0; i < count; i++) {
+                paidHours[i] = Math.min(s.left[pains[i]], n);
+            }
             for (int r = 0; r < t.porters; r++) {
                 has[r] = s.painsAt(t, AT_PORTER + r);
                 borne[r] = s.heaveOf(t, r, has[r]);
-                for (int i = 0; i < count; i++) {
-                    prices[r * MOST_PAINS + i] = t.fees[r] * Math.min(s.left[pains[i]], n);
-                }
             }
-            return search(t);
+            return leastCost(t, s);
         }
 
         int fewestFor(Town t, State s, int set) {
+            gather(t, set);
             countsPorters = true;
-            gather(t, s, set);
             for (int r = 0; r < t.porters; r++) {
                 has[r] = 0;
                 borne[r] = 0;
-                for (int i = 0; i < count; i++) {
-                    prices[r * MOST_PAINS + i] = 0;
-                }
             }
-            return search(t);
+            return leastCost(t, s);
         }
 
-        private void gather(Town t, State s, int set) {
+        private void gather(Town t, int set) {
             count = 0;
             for (int p = 0; p < t.pains; p++) {
                 if ((set >>> p & 1) != 0) {
-                    for (int r = 0; r < t.porters; r++) {
-                        heaves[r * MOST_PAINS + count] = s.heaveOf(t, r, 1 << p);
-                    }
                     pains[count] = p;
                     count++;
                 }
             }
-        }
-
-        private int search(Town t) {
-            least = Integer.MAX_VALUE;
-            if (findFloor(t)) {
-                place(t, 0, 0);
+            for (int i = 0; i < count; i++) {
+                clashes[i] = 0;
+                for (int k = 0; k < count; k++) {
+                    clashes[i] |= (t.clash[pains[i]] >>> pains[k] & 1) << k;
+                }
             }
-            return least == Integer.MAX_VALUE ? NONE : least;
         }
 
-        /** Whether each PAIN has a PORTER who can carry it if it is the only new one. */
-        private boolean findFloor(Town t) {
-            floor[count] = 0;
-            for (int i = count - 1; i >= 0; i--) {
-                int lowest = Integer.MAX_VALUE;
-                for (int r = 0; r < t.porters; r++) {
-                    if (fits(t, r, i)) {
-                        lowest = Math.min(lowest, prices[r * MOST_PAINS + i]);
+        private int leastCost(Town t, State s) {
+            int all = (1 << count) - 1;
+            for (int set = 1; set <= all; set++) {
+                least[set] = NONE;
+            }
+            least[0] = 0;
+            for (int r = 0; r < t.porters; r++) {
+                findKeys(t, s, r);
+                addPorter(all);
+            }
+            if (least[all] < 0) {
+                return NONE;
+            }
+            code = (int) (least[all] % CODES);
+            return (int) (least[all] / CODES);
+        }
+
+        private void findKeys(Town t, State s, int r) {
+            keys[0] = 0;
+            heaved[0] = borne[r];
+            int digit = TOP_DIGIT;
+            for (int i = 0; i < count; i++) {
+                int p = pains[i];
+                boolean never = t.isForbidden(r, p) || (has[r] & t.clash[p]) != 0;
+                int heave = s.heaveOf(t, r, 1 << p);
+                long coins = countsPorters ? 0 : t.fees[r] * paidHours[i];
+                for (int others = 0; others < 1 << i; others++) {
+                    int set = others | 1 << i;
+                    heaved[set] = heaved[others] + heave;
+                    boolean can = !never && keys[others] >= 0 && (others & clashes[i]) == 0
+                            && heaved[set] <= t.strength[r];
+                    long cost = countsPorters && others == 0 ? 1 : coins;
+                    keys[set] = can ? keys[others] + cost * CODES + r * digit : NONE;
+                }
+                digit /= MOST_PORTERS;
+            }
+        }
+
+        /** The greatest set comes first, for each needs what smaller ones were without this PORTER. */
+        private void addPorter(int all) {
+            for (int set = all; set > 0; set--) {
+                long best = least[set];
+                for (int part = set; part > 0; part = part - 1 & set) {
+                    if (keys[part] >= 0 && least[set ^ part] >= 0) {
+                        long key = least[set ^ part] + keys[part];
+                        best = best < 0 ? key : Math.min(best, key);
                     }
                 }
-                if (lowest == Integer.MAX_VALUE) {
-                    return false;
-                }
-                floor[i] = floor[i + 1] + lowest;
-            }
-            return true;
-        }
-
-        private boolean fits(Town t, int r, int i) {
-            int p = pains[i];
-            return borne[r] + heaves[r * MOST_PAINS + i] <= t.strength[r]
-                    && (has[r] & t.clash[p]) == 0 && !t.isForbidden(r, p);
-        }
-
-        /** The first of like ones is met first, so what costs as much as the best one is left. */
-        private void place(Town t, int i, int cost) {
-            if (i > count || cost + floor[i] >= least) {
-                return;
-            }
-            if (i == count) {
-                least = cost;
-                System.arraycopy(chosen, 0, best, 0, count);
-                return;
-            }
-            for (int r = 0; r < t.porters; r++) {
-                if (fits(t, r, i)) {
-                    int k = r * MOST_PAINS + i;
-                    int price = countsPorters && has[r] == 0 ? 1 : prices[k];
-                    has[r] ^= 1 << pains[i];
-                    borne[r] += heaves[k];
-                    chosen[i] = r;
-                    place(t, i + 1, cost + price);
-                    borne[r] -= heaves[k];
-                    has[r] ^= 1 << pains[i];
-                }
+                least[set] = best;
             }
         }
 
-        /** Writes PAIN by PAIN who has it by the latest search. */
+        /** Writes PAIN by PAIN who has it by the latest way that was found. */
         void tell(int[] porterOf) {
             for (int p = 0; p < MOST_PAINS; p++) {
                 porterOf[p] = NONE;
             }
-            for (int i = 0; i < count; i++) {
-                porterOf[pains[i]] = best[i];
+            int digit = TOP_DIGIT;
+            for (int i = 0; i < count && digit > 0; i++) {
+                porterOf[pains[i]] = code / digit % MOST_PORTERS;
+                digit /= MOST_PORTERS;
             }
         }
 
