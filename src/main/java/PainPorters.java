@@ -1862,7 +1862,9 @@ public final class PainPorters {
     private static final class Limps {
         private final int[] lost = new int[MOST_LOST];
         private int lostCount;
-        private final int[] missing = new int[MOST_PERSONS];
+        // PERSON by PERSON what he bears besides what is known to be with him, and what a way lays on him.
+        private final int[] unknown = new int[MOST_PERSONS];
+        private final int[] laid = new int[MOST_PERSONS];
         private final int[] chosen = new int[MOST_LOST];
         // PAIN by PAIN who has it by some way, as bits: while ways are sought, and by the latest that were found.
         private final int[] seen = new int[MOST_PAINS];
@@ -1874,52 +1876,75 @@ public final class PainPorters {
             if (Integer.bitCount(street) > MOST_LOST || t.persons > bears.length) {
                 return NONE;
             }
-            lostCount = 0;
-            for (int p = 0; p < MOST_PAINS; p++) {
-                seen[p] = 0;
-                if ((street >>> p & 1) != 0) {
-                    lost[lostCount] = p;
-                    lostCount++;
-                }
-            }
+            findLost(street);
             for (int m = 0; m < t.persons; m++) {
-                missing[m] = (bears[m] & 255) - s.weightAt(t, m);
+                unknown[m] = (bears[m] & 255) - s.weightAt(t, m);
             }
-            int ways = waysFrom(t, 0);
+            int ways = countWays(t);
             if (ways > 0) {
                 System.arraycopy(seen, 0, holders, 0, MOST_PAINS);
             }
             return ways;
         }
 
-        private int waysFrom(Town t, int i) {
-            if (i >= lostCount) {
-                return noteWay(t);
-            }
-            int weight = t.weight[lost[i]];
-            int ways = 0;
-            for (int m = 0; m < t.persons; m++) {
-                if (missing[m] >= weight) {
-                    missing[m] -= weight;
-                    chosen[i] = m;
-                    ways += waysFrom(t, i + 1);
-                    missing[m] += weight;
+        private void findLost(int street) {
+            lostCount = 0;
+            for (int p = 0; p < MOST_PAINS; p++) {
+                seen[p] = 0;
+                if ((street >>> p & 1) != 0 && lostCount < MOST_LOST) {
+                    lost[lostCount] = p;
+                    lostCount++;
                 }
             }
-            chosen[i] = NOBODY;
-            return ways + waysFrom(t, i + 1);
         }
 
-        private int noteWay(Town t) {
-            for (int m = 0; m < t.persons; m++) {
-                if (missing[m] != 0) {
-                    return 0;
+        /** A way is a number: its digits, to the base of all PERSONS and nobody, are who has each PAIN. */
+        private int countWays(Town t) {
+            int all = 1;
+            for (int i = 0; i < lostCount; i++) {
+                all *= t.persons + 1;
+            }
+            int ways = 0;
+            for (int way = 0; way < all; way++) {
+                layDown(t, way);
+                if (bearsThat(t)) {
+                    ways++;
+                    noteWay();
                 }
             }
+            return ways;
+        }
+
+        private void layDown(Town t, int way) {
+            for (int m = 0; m < t.persons; m++) {
+                laid[m] = 0;
+            }
+            int rest = way;
+            for (int i = 0; i < lostCount; i++) {
+                int who = rest % (t.persons + 1);
+                rest /= t.persons + 1;
+                if (who < t.persons) {
+                    chosen[i] = who;
+                    laid[who] += t.weight[lost[i]];
+                } else {
+                    chosen[i] = NOBODY;
+                }
+            }
+        }
+
+        private boolean bearsThat(Town t) {
+            for (int m = 0; m < t.persons; m++) {
+                if (laid[m] != unknown[m]) {
+                    return false;
+                }
+            }
+            return true;
+        }
+
+        private void noteWay() {
             for (int i = 0; i < lostCount; i++) {
                 seen[lost[i]] |= 1 << chosen[i];
             }
-            return 1;
         }
 
         int sureHolder(int p) {
